@@ -995,7 +995,7 @@ public final class HoldHouse {
         }
 
         int queued() {
-            return Math.max(0, Math.min(value, MOST_CELLS));
+            return value < 0 || value > MOST_CELLS ? 0 : value;
         }
 
         int summary() {
