@@ -25,8 +25,9 @@ public final class HoldHouse {
     private static final int MOST_DEALS = 400, MOST_UNDER_WAY = 12, MOST_LEVEL = 4, MOST_ASKED = 700,
             MOST_LIMIT = 200, MOST_GROUP = 20, MOST_RULE = 3, MOST_RESTS = 100;
     private static final int MOST_SET_NUMBER = 31, MOST_PAID = 1000, MOST_FIRST = 64;
-    // Twelve waits of at most twelve needs each: far below both.
-    private static final int MOST_NEEDS = 32, MOST_TURNS = 100000;
+    // An ACT needs locks for one OBJECT or two, each with its FOLDERS: twelve locks at most, for each of
+    // twelve TRANSACTIONS, so that both bounds stand far above what a call can need.
+    private static final int LEGS = 2, MOST_NEEDS = 32, MOST_TURNS = 100000;
 
     // For each KIND the SORTS that have it, a bit each.
     private static final int[] SORTS_OF_KIND = {198, 66, 66, 4, 8, 8, 8, 56, 16, 16, 16, 16, 32, 32, 32,
@@ -725,7 +726,7 @@ public final class HoldHouse {
     /** The lock that the ACT needs now, null behind the last. */
     private Lock nextNeed(Deal deal) {
         Ask ask = deal.ask;
-        for (; ask.leg < 2; ask.nextLeg()) {
+        for (int n = 0; n < LEGS && ask.leg < LEGS; n++) {
             int place = legPlace(ask);
             Thing thing = live.thing(place);
             if (thing != null && ask.step < thing.depth) {
@@ -735,6 +736,7 @@ public final class HoldHouse {
             if (thing != null && ask.step == thing.depth) {
                 return lockOn(deal, place, ask.legKind(place), ask.a);
             }
+            ask.nextLeg();
         }
         return null;
     }
@@ -813,8 +815,8 @@ public final class HoldHouse {
         }
     }
 
+    /** Tells the search for RINGS who waits for whom, as things are now. */
     private void drawEdges() {
-        latestRing.clearEdges();
         for (int i = 0; i < underWay.size(); i++) {
             Deal deal = underWay.get(i);
             Spot spot = deal.waiting == null ? null : spotOf(deal.waiting.place);
@@ -1027,12 +1029,8 @@ public final class HoldHouse {
             return true;
         }
 
-        /** Does an ACT that is on this alone. */
+        /** Does an ACT that is on this alone, and that its SORT has. */
         void run(int kind, int a, int b, Report report) {
-            if (!sortHas(sort, kind)) {
-                report.finding = FOUND_KIND;
-                return;
-            }
             switch (kind) {
                 case GET:
                     report.body(sort == SLOT ? 2 : 1);
@@ -1853,12 +1851,6 @@ public final class HoldHouse {
                 return victim;
             }
             return i < 0 || i >= size || i >= members.length ? NONE : members[i];
-        }
-
-        void clearEdges() {
-            for (int i = 0; i < MOST_UNDER_WAY; i++) {
-                waitsFor[i] = 0;
-            }
         }
 
         void draw(int seat, int number, int seats) {

@@ -17,6 +17,7 @@ public final class LogTest {
         crashes();
         numbersGoOn();
         versions();
+        eachOfTheLatestSixteen();
         versionsOfWrites();
         serials();
         counts();
@@ -295,6 +296,9 @@ public final class LogTest {
         due("16, by 15", x.version(0, 16), 115);
         due("17", x.version(0, 17), 116);
         due("beyond", x.version(0, Integer.MAX_VALUE), 116);
+        for (int e = 1; e <= 15; e++) {
+            due("version " + e, x.version(0, e), 100 + e);
+        }
         due("the other", x.version(1, 15), 7);
         due("the other", x.version(1, 16), 8);
         due("e below 0", x.version(0, -1), Kinds.BAD);
@@ -307,6 +311,18 @@ public final class LogTest {
         due("0 is told again", x.version(0, 0), 100);
         due("late one as made, for any e", x.make(1, -1, 55), 2);
         due("at 3", x.version(2, 3), 55);
+    }
+
+    private static void eachOfTheLatestSixteen() {
+        HoldHouse x = new HoldHouse();
+        x.make(1, -1, 100);
+        for (int e = 1; e <= 40; e++) {
+            addAndEnd(x, 0, 1);
+            for (int back = 0; back <= e; back++) {
+                int due = e - back < e - 15 ? Kinds.OLD : 100 + e - back;
+                due("version(0, " + (e - back) + ") behind end " + e, x.version(0, e - back), due);
+            }
+        }
     }
 
     private static void versionsOfWrites() {

@@ -74,6 +74,7 @@ public final class PairsTest {
         due("by 1, add", x.tried(1, 2, 1, 1, 3), 0);
         due("by 2, by 3, other answers", x.tried(1, 2, 2, 2, 3), 0);
         due("by 4, by 5, all to 0", x.tried(1, 2, 4, 2, 5), 1);
+        due("by 8, add 1 answer the same, but leave other values", x.tried(1, 2, 8, 1, 1), 0);
         due("by 0 is found either way", x.tried(1, 2, 0, 1, 1), 1);
         due("put, put", x.tried(2, 3, 1, 3, 1), 0);
         due("get, put", x.tried(2, 0, 0, 3, 1), 0);

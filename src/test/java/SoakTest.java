@@ -4,6 +4,8 @@ import java.util.Random;
 public final class SoakTest {
     private static final Check CHECK = new Check("SoakTest");
     private static final int STEPS = 220;
+    // How many are under way at once, by flavour.
+    private static final int[] AT_ONCE = {2, 3, 4, 5, 7, 11};
 
     private final Random random;
     private final HoldHouse x = new HoldHouse();
@@ -101,7 +103,7 @@ public final class SoakTest {
 
     private void one() {
         int underWay = x.count(2) + x.count(3);
-        if (underWay < 2 + flavour % 4 && upTo(3) > 0) {
+        if (underWay < AT_ONCE[flavour] && upTo(3) > 0) {
             int rank = upTo(3);
             due("begin(" + rank + ")", x.begin(rank), m.begin(rank));
             return;

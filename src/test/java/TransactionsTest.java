@@ -16,6 +16,7 @@ public final class TransactionsTest {
         ending();
         undoing();
         undoOfEachKind();
+        undoOnAFullQueue();
         undoApartFromOthers();
         retrying();
         telling();
@@ -278,6 +279,22 @@ public final class TransactionsTest {
             due("kept", x.object(o, 3), x.object(o, 2));
         }
         due("serial", x.serial(), 1);
+    }
+
+    private static void undoOnAFullQueue() {
+        HoldHouse x = new HoldHouse();
+        x.make(4, -1, 0);
+        x.begin(0);
+        for (int i = 1; i <= 8; i++) {
+            x.act(1, 0, Kinds.ENTER, i, 0);
+        }
+        int full = x.object(0, 2);
+        for (int i = 1; i <= 3; i++) {
+            due("leave", x.act(1, 0, Kinds.LEAVE, 0, 0), 1);
+            due("enter", x.act(1, 0, Kinds.ENTER, 90 + i, 0), 1);
+        }
+        due("back to the full one", x.backTo(1, 8), 6);
+        due("all eight are there", x.object(0, 2), full);
     }
 
     private static void undoApartFromOthers() {
