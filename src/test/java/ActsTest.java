@@ -254,15 +254,15 @@ public final class ActsTest {
     private static void kindsThatSortsHaveNot() {
         String[] has = {"1267", "16", "16", "2", "3", "3", "3", "345", "4", "4", "4", "4", "5", "5", "5", "6", "6",
             "7", "7", "6", "0", "01234567"};
-        HoldHouse x = house();
         for (int kind = 0; kind < 22; kind++) {
+            HoldHouse x = house();
             for (int sort = 0; sort < 8; sort++) {
                 if (has[kind].indexOf('0' + sort) < 0) {
                     found(x, a(sort, kind, 0, 8), Kinds.KIND);
                 }
             }
+            due("all as before", x.save(1), 0);
         }
-        due("all as before", x.save(1), 0);
     }
 
     private static void wrongInputs() {
@@ -303,7 +303,8 @@ public final class ActsTest {
     }
 
     private static void sevenHundred() {
-        // Beyond the 512 calls that are promised, so this looks only that 700 is never passed.
+        // 700 are never reached within the 512 calls that are promised: this tells what the class does there, that
+        // the document's number stands in it.
         HoldHouse x = house();
         for (int t = 2; t <= 5; t++) {
             x.begin(0);

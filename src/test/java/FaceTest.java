@@ -6,7 +6,6 @@ import java.lang.reflect.Method;
 import java.lang.reflect.Modifier;
 import java.nio.file.Files;
 import java.nio.file.Path;
-import java.util.ArrayList;
 import java.util.Arrays;
 import java.util.List;
 import java.util.Random;
@@ -15,17 +14,13 @@ import java.util.TreeSet;
 /** The document's face, the rules of the language that can be seen in the text, wild arguments, the room. */
 public final class FaceTest {
     private static final Check CHECK = new Check("FaceTest");
-    private static final String[] HEADS = {"make 3", "object 2", "begin 1", "nest 1", "join 1", "back 1", "save 1",
-        "backTo 2", "end 1", "undo 1", "retry 1", "act 5", "of 2", "lock 3", "waits 3", "ring 1", "rule 1", "limit 1",
-        "group 1", "rest 0", "cut 1", "crash 0", "row 2", "ended 1", "version 2", "commute 5", "tried 5", "serial 0",
-        "trace 1", "count 1", "digest 0"};
-
     public static void main(String[] args) throws Exception {
         face();
         constants();
         text();
         refusedChangesNothing();
         wildCalls();
+        wildCallsBeyond();
         sameCallsSameAnswers();
         room();
         CHECK.close();
@@ -45,7 +40,7 @@ public final class FaceTest {
                 CHECK.isTrue("a name of its own: " + method, !isHead(method.getName()));
             }
         }
-        CHECK.isTrue("the heads " + seen, seen.equals(new TreeSet<>(Arrays.asList(HEADS))));
+        CHECK.isTrue("the heads " + seen, seen.equals(new TreeSet<>(Arrays.asList(Calls.HEADS))));
         Constructor<?>[] constructors = HoldHouse.class.getDeclaredConstructors();
         CHECK.due("constructors", constructors.length, 1);
         CHECK.due("its parameters", constructors[0].getParameterCount(), 0);
@@ -64,7 +59,7 @@ public final class FaceTest {
     }
 
     private static boolean isHead(String name) {
-        return Arrays.stream(HEADS).anyMatch(head -> head.substring(0, head.indexOf(' ')).equals(name));
+        return Arrays.stream(Calls.HEADS).anyMatch(head -> head.substring(0, head.indexOf(' ')).equals(name));
     }
 
     private static void constants() {
@@ -126,117 +121,8 @@ public final class FaceTest {
         return longest;
     }
 
-    /** All that can be seen of a house. */
-    private static List<Integer> picture(HoldHouse x) {
-        List<Integer> all = new ArrayList<>();
-        for (int what = 0; what < 18; what++) {
-            all.add(x.count(what));
-        }
-        all.add(x.digest());
-        for (int t = 1; t <= x.count(1); t++) {
-            for (int what = 0; what < 12; what++) {
-                all.add(x.of(t, what));
-            }
-        }
-        for (int o = 0; o < x.count(0); o++) {
-            for (int what = 0; what < 4; what++) {
-                all.add(x.object(o, what));
-                for (int i = 0; i < 6; i++) {
-                    all.add(x.lock(o, i, what));
-                    all.add(x.waits(o, i, what));
-                    all.add(x.version(o, i));
-                }
-            }
-        }
-        for (int i = 0; i < x.count(11); i++) {
-            for (int what = 0; what < 8; what++) {
-                all.add(x.row(i, what));
-            }
-        }
-        for (int i = -1; i < 16; i++) {
-            all.add(x.trace(i));
-            all.add(x.ring(i));
-        }
-        return all;
-    }
-
-    private static int call(HoldHouse x, int which, int... n) {
-        switch (which) {
-            case 0:
-                return x.make(n[0], n[1], n[2]);
-            case 1:
-                return x.object(n[0], n[1]);
-            case 2:
-                return x.begin(n[0]);
-            case 3:
-                return x.nest(n[0]);
-            case 4:
-                return x.join(n[0]);
-            case 5:
-                return x.back(n[0]);
-            case 6:
-                return x.save(n[0]);
-            case 7:
-                return x.backTo(n[0], n[1]);
-            case 8:
-                return x.end(n[0]);
-            case 9:
-                return x.undo(n[0]);
-            case 10:
-                return x.retry(n[0]);
-            case 11:
-                return x.act(n[0], n[1], n[2], n[3], n[4]);
-            case 12:
-                return x.of(n[0], n[1]);
-            case 13:
-                return x.lock(n[0], n[1], n[2]);
-            case 14:
-                return x.waits(n[0], n[1], n[2]);
-            case 15:
-                return x.ring(n[0]);
-            case 16:
-                return x.rule(n[0]);
-            case 17:
-                return x.limit(n[0]);
-            case 18:
-                return x.group(n[0]);
-            default:
-                return callMore(x, which, n);
-        }
-    }
-
-    private static int callMore(HoldHouse x, int which, int... n) {
-        switch (which) {
-            case 19:
-                return x.rest();
-            case 20:
-                return x.cut(n[0]);
-            case 21:
-                return x.crash();
-            case 22:
-                return x.row(n[0], n[1]);
-            case 23:
-                return x.ended(n[0]);
-            case 24:
-                return x.version(n[0], n[1]);
-            case 25:
-                return x.commute(n[0], n[1], n[2], n[3], n[4]);
-            case 26:
-                return x.tried(n[0], n[1], n[2], n[3], n[4]);
-            case 27:
-                return x.serial();
-            case 28:
-                return x.trace(n[0]);
-            case 29:
-                return x.count(n[0]);
-            default:
-                return x.digest();
-        }
-    }
-
     /** A house with much in it: folders, levels, waits, a ring, ends, one undone. */
-    private static HoldHouse busy() {
-        HoldHouse x = new HoldHouse();
+    private static void busy(HoldHouse x) {
         x.make(0, -1, 0);
         for (int sort = 0; sort < 8; sort++) {
             x.make(sort, 0, 9);
@@ -261,59 +147,68 @@ public final class FaceTest {
         x.act(6, 2, Kinds.ADD, 1, 0);
         x.act(6, 7, Kinds.DRAW, 1, 0);
         x.act(5, 2, Kinds.GET, 1, 0);
-        return x;
     }
 
     private static void refusedChangesNothing() {
-        HoldHouse x = busy();
-        List<Integer> before = picture(x);
+        Scene scene = new Scene(CHECK, FaceTest::busy);
         int refused = 0;
         Random random = new Random(5);
-        for (int n = 0; n < 4000; n++) {
-            int which = random.nextInt(31);
-            int[] wild = wild(random);
-            int answer = call(x, which, wild);
-            boolean asks = which == 1 || which >= 12 && which <= 15 || which >= 22;
-            if (asks || answer == -1 || answer == -2 || answer == -3) {
+        for (int n = 0; n < 2500; n++) {
+            int[] call = wild(random);
+            int answer = Calls.on(scene.house(), call);
+            boolean asks = Calls.isQuestion(call[0]);
+            if (asks ? n % 8 == 0 : answer == -1 || answer == -2 || answer == -3) {
                 refused++;
-                if (n % 8 == 0 || !asks) {
-                    CHECK.isTrue("call " + which + " " + Arrays.toString(wild) + " changes nothing",
-                            picture(x).equals(before));
-                }
-            } else {
-                x = busy();
+                scene.refused(Calls.name(call), x -> Calls.on(x, call), answer);
             }
         }
-        CHECK.isTrue("many were refused", refused > 2000);
+        CHECK.isTrue("many were refused", refused > 1000);
     }
 
     private static int[] wild(Random random) {
-        int[] wild = new int[5];
-        for (int i = 0; i < 5; i++) {
+        int[] wild = new int[6];
+        wild[0] = random.nextInt(Calls.MANY);
+        for (int i = 1; i < 6; i++) {
             wild[i] = random.nextInt(3) == 0 ? Kinds.WILD[random.nextInt(Kinds.WILD.length)] : random.nextInt(12) - 1;
         }
         return wild;
     }
 
     private static void wildCalls() {
-        for (int seed = 0; seed < 300; seed++) {
+        for (int seed = 0; seed < 1000; seed++) {
             Random random = new Random(seed);
-            HoldHouse x = seed % 2 == 0 ? new HoldHouse() : busy();
-            for (int n = 0; n < 2000; n++) {
-                call(x, random.nextInt(31), wild(random));
+            HoldHouse x = seed % 2 == 0 ? new HoldHouse() : busyHouse();
+            for (int n = 0; n < 450; n++) {
+                Calls.on(x, wild(random));
             }
             CHECK.due("serial", x.serial(), 1);
         }
     }
 
+    private static HoldHouse busyHouse() {
+        HoldHouse x = new HoldHouse();
+        busy(x);
+        return x;
+    }
+
+    /** "No call may ever throw or fail to end", beyond the 512th too, where answers are free. */
+    private static void wildCallsBeyond() {
+        for (int seed = 0; seed < 100; seed++) {
+            Random random = new Random(seed);
+            HoldHouse x = seed % 2 == 0 ? new HoldHouse() : busyHouse();
+            for (int n = 0; n < 3000; n++) {
+                Calls.on(x, wild(random));
+            }
+        }
+    }
+
     private static void sameCallsSameAnswers() {
-        HoldHouse x = busy();
-        HoldHouse y = busy();
+        HoldHouse x = busyHouse();
+        HoldHouse y = busyHouse();
         Random random = new Random(77);
-        for (int n = 0; n < 2000; n++) {
-            int which = random.nextInt(31);
-            int[] wild = wild(random);
-            CHECK.due("the same " + which, call(x, which, wild), call(y, which, wild));
+        for (int n = 0; n < 450; n++) {
+            int[] call = wild(random);
+            CHECK.due("the same " + Calls.name(call), Calls.on(x, call), Calls.on(y, call));
         }
     }
 
@@ -335,10 +230,10 @@ public final class FaceTest {
         for (int t = 1; t <= 12; t++) {
             x.begin(0);
         }
-        for (int n = 0; n < 400; n++) {
+        for (int n = 0; n < 360; n++) {
             x.act(1 + n % 12, 5 + n % 30, Kinds.MOVE, n / 12 % 100, 5 + (n * 7 + 1) % 31);
         }
-        for (int n = 0; n < 60; n++) {
+        for (int n = 0; n < 30; n++) {
             x.serial();
             x.tried(5, 12, 0, 12, 1);
             x.crash();

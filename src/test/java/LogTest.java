@@ -314,10 +314,12 @@ public final class LogTest {
     }
 
     private static void eachOfTheLatestSixteen() {
-        HoldHouse x = new HoldHouse();
-        x.make(1, -1, 100);
         for (int e = 1; e <= 40; e++) {
-            addAndEnd(x, 0, 1);
+            HoldHouse x = new HoldHouse();
+            x.make(1, -1, 100);
+            for (int n = 1; n <= e; n++) {
+                addAndEnd(x, 0, 1);
+            }
             for (int back = 0; back <= e; back++) {
                 int due = e - back < e - 15 ? Kinds.OLD : 100 + e - back;
                 due("version(0, " + (e - back) + ") behind end " + e, x.version(0, e - back), due);

@@ -933,6 +933,25 @@ final class Model {
         return at == null ? OLD : replay(true, at).objects.get(o).digest();
     }
 
+    /** Whether those that ENDED answer as they did, one after the other. */
+    int serial() {
+        World world = new World();
+        for (int i = 0; i < log.size(); i++) {
+            int[] r = log.get(i).told;
+            if (r[0] == 0) {
+                world.objects.add(new Obj(r[3], r[5], r[4]));
+            }
+            for (Rw row : r[0] == 4 ? log.subList(0, i) : new ArrayList<Rw>()) {
+                int[] act = row.told;
+                boolean own = act[0] == 2 && act[1] == r[1] && !row.undone;
+                if (own && (world.act(act[2], act[3], act[4], act[5]) != act[6] || world.finding != 0)) {
+                    return 0;
+                }
+            }
+        }
+        return 1;
+    }
+
     int trace(int i) {
         return i < 0 || i >= trace.size() || i >= 16 ? NONE : trace.get(i);
     }

@@ -40,10 +40,10 @@ public final class PairsTest {
     }
 
     private static void commuteTable() {
-        HoldHouse x = new HoldHouse();
         int[] as = {0, 1, -7, Integer.MAX_VALUE};
         for (int sort = 0; sort < 8; sort++) {
             for (int kind = 0; kind < 22; kind++) {
+                HoldHouse x = new HoldHouse();
                 for (int kind2 = 0; kind2 < 22; kind2++) {
                     for (int a : as) {
                         due("commute(" + sort + ", " + kind + ", " + a + ", " + kind2 + ", 1)",
@@ -136,11 +136,11 @@ public final class PairsTest {
     }
 
     private static void commuteIsTried() {
-        HoldHouse x = new HoldHouse();
         int[] as = {-2, -1, 0, 1, 2, 3, 7, 1000};
         for (int sort = 1; sort < 8; sort++) {
             for (int kind = 0; kind < 18; kind++) {
                 for (int kind2 = 0; kind2 < 18; kind2++) {
+                    HoldHouse x = new HoldHouse();
                     for (int a : as) {
                         for (int a2 : as) {
                             int tried = x.tried(sort, kind, a, kind2, a2);

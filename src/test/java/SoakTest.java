@@ -1,18 +1,23 @@
+import java.util.ArrayList;
+import java.util.List;
 import java.util.Random;
 
-/** Long mixed runs of HoldHouse beside Model, by seeds that are always the same. */
+/**
+ * Long mixed runs of HoldHouse beside Model, by seeds that are always the same. A run is told again on new objects
+ * for the questions, so that none is used for more than the 512 calls that are promised.
+ */
 public final class SoakTest {
     private static final Check CHECK = new Check("SoakTest");
-    private static final int STEPS = 220;
+    private static final int STEPS = 200, MOST_CALLS = 512;
     // How many are under way at once, by flavour.
-    private static final int[] AT_ONCE = {2, 3, 4, 5, 7, 11};
+    private static final int[] AT_ONCE = {2, 3, 4, 5, 7, 12};
 
     private final Random random;
     private final HoldHouse x = new HoldHouse();
     private final Model m = new Model();
+    private final List<int[]> story = new ArrayList<>();
     private final int seed;
     private final int flavour;
-    private int step;
     private int rowsSeen;
 
     private SoakTest(int seed) {
@@ -29,7 +34,7 @@ public final class SoakTest {
             SoakTest run = new SoakTest(seed);
             run.go();
             for (int what = 0; what < 18; what++) {
-                seen[what] += run.x.count(what);
+                seen[what] += run.m.count(what);
             }
         }
         System.out.println("SoakTest: rings " + seen[6] + ", ends " + seen[4] + ", undone " + seen[5] + ", asked "
@@ -38,53 +43,72 @@ public final class SoakTest {
         CHECK.close();
     }
 
-    private void due(String call, int got, int want) {
-        CHECK.due("seed " + seed + " step " + step + ": " + call, got, want);
-    }
-
     private int upTo(int most) {
         return random.nextInt(most + 1);
     }
 
     private void go() {
         makeSome();
-        for (step = 0; step < STEPS; step++) {
+        for (int step = 0; step < STEPS; step++) {
             one();
-            observe();
+            if (upTo(2) == 0) {
+                ask(nowAndThen());
+            }
         }
-        observeAll();
+        ask(inTheEnd());
+    }
+
+    /** A call of the run, on both. */
+    private void both(int... call) {
+        story.add(call);
+        CHECK.due("seed " + seed + " call " + story.size() + ": " + Calls.name(call), Calls.on(x, call),
+                Calls.on(m, call));
+    }
+
+    /** Questions behind what was called up to now, on houses of their own. */
+    private void ask(List<int[]> questions) {
+        HoldHouse y = null;
+        int calls = MOST_CALLS;
+        for (int[] question : questions) {
+            if (calls >= MOST_CALLS) {
+                y = new HoldHouse();
+                for (int[] call : story) {
+                    Calls.on(y, call);
+                }
+                calls = story.size();
+            }
+            calls++;
+            CHECK.due("seed " + seed + " behind call " + story.size() + ": " + Calls.name(question),
+                    Calls.on(y, question), Calls.on(m, question));
+        }
     }
 
     private void makeSome() {
         int many = flavour == 0 ? 3 : flavour == 1 ? 5 : 4 + upTo(8);
         for (int i = 0; i < many; i++) {
             int sort = flavour == 1 ? 6 + upTo(1) : flavour == 2 ? new int[] {0, 2, 1}[i % 3] : upTo(7);
-            make(sort, folderOrNone(), upTo(5) == 0 ? 1000000000 : upTo(20));
+            both(Calls.MAKE, sort, folderOrNone(), upTo(5) == 0 ? 1000000000 : upTo(20));
         }
     }
 
     private int folderOrNone() {
         for (int n = 0; n < 6; n++) {
-            int o = upTo(Math.max(0, x.count(0)));
-            if (x.object(o, 0) == 0) {
+            int o = upTo(Math.max(0, m.count(0)));
+            if (m.object(o, 0) == 0) {
                 return o;
             }
         }
         return -1;
     }
 
-    private void make(int sort, int parent, int v) {
-        due("make(" + sort + ", " + parent + ", " + v + ")", x.make(sort, parent, v), m.make(sort, parent, v));
-    }
-
     private int someDeal() {
-        int began = x.count(1);
+        int began = m.count(1);
         if (upTo(20) == 0) {
             return upTo(began + 1);
         }
         for (int n = 0; n < 30; n++) {
             int t = began - upTo(Math.min(20, began));
-            if (x.of(t, 0) == 1) {
+            if (m.of(t, 0) == 1) {
                 return t;
             }
         }
@@ -93,8 +117,8 @@ public final class SoakTest {
 
     private int someUndone() {
         for (int n = 0; n < 40; n++) {
-            int t = 1 + upTo(Math.max(0, x.count(1) - 1));
-            if (x.of(t, 0) == 4) {
+            int t = 1 + upTo(Math.max(0, m.count(1) - 1));
+            if (m.of(t, 0) == 4) {
                 return t;
             }
         }
@@ -102,10 +126,9 @@ public final class SoakTest {
     }
 
     private void one() {
-        int underWay = x.count(2) + x.count(3);
+        int underWay = m.count(2) + m.count(3);
         if (underWay < AT_ONCE[flavour] && upTo(3) > 0) {
-            int rank = upTo(3);
-            due("begin(" + rank + ")", x.begin(rank), m.begin(rank));
+            both(Calls.BEGIN, upTo(3));
             return;
         }
         int pick = upTo(99);
@@ -121,63 +144,53 @@ public final class SoakTest {
     private void onDeal(int pick) {
         int t = someDeal();
         if (pick < 72) {
-            due("end(" + t + ")", x.end(t), m.end(t));
+            both(Calls.END, t);
         } else if (pick < 76) {
-            due("nest(" + t + ")", x.nest(t), m.nest(t));
+            both(Calls.NEST, t);
         } else if (pick < 79) {
-            due("join(" + t + ")", x.join(t), m.join(t));
+            both(Calls.JOIN, t);
         } else if (pick < 82) {
-            due("back(" + t + ")", x.back(t), m.back(t));
+            both(Calls.BACK, t);
         } else if (pick < 84) {
-            due("save(" + t + ")", x.save(t), m.save(t));
+            both(Calls.SAVE, t);
         } else if (pick < 87) {
-            int acts = x.of(t, 5) - upTo(3) + (upTo(5) == 0 ? 1 : 0);
-            due("backTo(" + t + ", " + acts + ")", x.backTo(t, acts), m.backTo(t, acts));
+            both(Calls.BACK_TO, t, m.of(t, 5) - upTo(3) + (upTo(5) == 0 ? 1 : 0));
         } else if (pick < 89) {
-            int any = upTo(2) == 0 ? upTo(x.count(1)) : t;
-            due("undo(" + any + ")", x.undo(any), m.undo(any));
+            both(Calls.UNDO, upTo(2) == 0 ? upTo(m.count(1)) : t);
         } else if (pick < 91) {
-            int gone = someUndone();
-            due("retry(" + gone + ")", x.retry(gone), m.retry(gone));
+            both(Calls.RETRY, someUndone());
         } else {
-            int rank = upTo(4) - 2;
-            due("begin(" + rank + ")", x.begin(rank), m.begin(rank));
+            both(Calls.BEGIN, upTo(4) - 2);
         }
     }
 
     private void onHouse(int pick) {
         int n = upTo(24) - 1;
         if (pick == 94) {
-            due("rule(" + n % 5 + ")", x.rule(n % 5), m.rule(n % 5));
+            both(Calls.RULE, n % 5);
         } else if (pick == 95) {
-            int most = upTo(3) == 0 ? 3 + upTo(10) : 200;
-            due("limit(" + most + ")", x.limit(most), m.limit(most));
+            both(Calls.LIMIT, upTo(3) == 0 ? 3 + upTo(10) : 200);
         } else if (pick == 96) {
-            due("group(" + n + ")", x.group(n / 4), m.group(n / 4));
+            both(Calls.GROUP, n / 4);
         } else if (pick == 97) {
-            due("rest()", x.rest(), m.rest());
-            make(upTo(7), folderOrNone(), upTo(9));
+            both(Calls.REST);
+            both(Calls.MAKE, upTo(7), folderOrNone(), upTo(9));
         } else if (pick == 98 && upTo(3) == 0) {
-            due("crash()", x.crash(), m.crash());
-            rowsSeen = Math.min(rowsSeen, x.count(11));
+            both(Calls.CRASH);
         } else if (upTo(3) == 0) {
-            int at = Math.max(upTo(8) == 0 ? 0 : x.count(0), x.count(11) - upTo(25) + 1);
-            due("cut(" + at + ")", x.cut(at), m.cut(at));
-            rowsSeen = Math.min(rowsSeen, x.count(11));
+            both(Calls.CUT, Math.max(upTo(8) == 0 ? 0 : m.count(0), m.count(11) - upTo(25) + 1));
         }
-        if (x.count(0) < 2) {
+        rowsSeen = Math.min(rowsSeen, m.count(11));
+        if (m.count(0) < 2) {
             makeSome();
         }
     }
 
     private void act() {
         int t = someDeal();
-        int o = upTo(40) == 0 ? upTo(41) - 1 : upTo(Math.max(0, x.count(0) - 1));
-        int kind = kindFor(x.object(o, 0));
-        int a = aFor(kind);
-        int b = upTo(Math.max(0, x.count(0) - 1));
-        String call = "act(" + t + ", " + o + ", " + kind + ", " + a + ", " + b + ")";
-        due(call, x.act(t, o, kind, a, b), m.act(t, o, kind, a, b));
+        int o = upTo(40) == 0 ? upTo(41) - 1 : upTo(Math.max(0, m.count(0) - 1));
+        int kind = kindFor(m.object(o, 0));
+        both(Calls.ACT, t, o, kind, aFor(kind), upTo(Math.max(0, m.count(0) - 1)));
     }
 
     private int kindFor(int sort) {
@@ -199,7 +212,7 @@ public final class SoakTest {
         }
         switch (kind) {
             case 17:
-                return upTo(x.count(0)) - 1;
+                return upTo(m.count(0)) - 1;
             case 2:
                 return upTo(3) - 1;
             case 15:
@@ -211,82 +224,71 @@ public final class SoakTest {
         }
     }
 
-    private void observe() {
+    private List<int[]> nowAndThen() {
+        List<int[]> some = new ArrayList<>();
         for (int what = 0; what < 18; what++) {
-            due("count(" + what + ")", x.count(what), m.count(what));
+            some.add(new int[] {Calls.COUNT, what});
         }
-        due("digest()", x.digest(), m.digest());
+        some.add(new int[] {Calls.DIGEST});
         for (int i = -2; i < 4; i++) {
-            due("ring(" + i + ")", x.ring(i), m.ring(i));
-            due("trace(" + i + ")", x.trace(i), m.trace(i));
+            some.add(new int[] {Calls.RING, i});
+            some.add(new int[] {Calls.TRACE, i});
         }
-        for (; rowsSeen < x.count(11); rowsSeen++) {
-            for (int what = 0; what < 8; what++) {
-                due("row(" + rowsSeen + ", " + what + ")", x.row(rowsSeen, what), m.row(rowsSeen, what));
-            }
+        for (; rowsSeen < m.count(11); rowsSeen++) {
+            addRow(some, rowsSeen);
         }
-        for (int t = Math.max(1, x.count(1) - 14); t <= x.count(1); t++) {
-            observeDeal(t);
+        for (int t = Math.max(1, m.count(1) - 14); t <= m.count(1); t++) {
+            addDeal(some, t);
         }
-        for (int o = 0; o < x.count(0); o++) {
-            observeLocks(o);
+        for (int o = 0; o < m.count(0); o++) {
+            addLocks(some, o);
         }
-        int o = upTo(x.count(0));
-        int e = upTo(x.count(4) + 1);
-        due("object(" + o + ", 3)", x.object(o, 3), m.object(o, 3));
-        if (step % 8 == 0) {
-            due("version(" + o + ", " + e + ")", x.version(o, e), m.version(o, e));
-            due("ended(" + e + ")", x.ended(e), m.ended(e));
-            due("serial()", x.serial(), 1);
-            heldAgree();
+        int o = upTo(m.count(0));
+        int e = upTo(m.count(4) + 1);
+        some.add(new int[] {Calls.OBJECT, o, 3});
+        some.add(new int[] {Calls.VERSION, o, e});
+        some.add(new int[] {Calls.ENDED, e});
+        some.add(new int[] {Calls.SERIAL});
+        return some;
+    }
+
+    private static void addRow(List<int[]> some, int i) {
+        for (int what = 0; what < 8; what++) {
+            some.add(new int[] {Calls.ROW, i, what});
         }
     }
 
-    private void observeDeal(int t) {
+    private static void addDeal(List<int[]> some, int t) {
         for (int what = -1; what < 13; what++) {
-            due("of(" + t + ", " + what + ")", x.of(t, what), m.of(t, what));
+            some.add(new int[] {Calls.OF, t, what});
         }
     }
 
-    private void observeLocks(int o) {
-        for (int i = 0; i < 40; i++) {
-            int there = x.lock(o, i, 0);
+    private void addLocks(List<int[]> some, int o) {
+        boolean more = true;
+        for (int i = 0; more; i++) {
+            more = m.lock(o, i, 0) != Kinds.NONE || m.waits(o, i, 0) != Kinds.NONE;
             for (int what = 0; what < 4; what++) {
-                due("lock(" + o + ", " + i + ", " + what + ")", x.lock(o, i, what), m.lock(o, i, what));
-                due("waits(" + o + ", " + i + ", " + what + ")", x.waits(o, i, what), m.waits(o, i, what));
-            }
-            if (there == Kinds.NONE && x.waits(o, i, 0) == Kinds.NONE) {
-                return;
+                some.add(new int[] {Calls.LOCK, o, i, what});
+                some.add(new int[] {Calls.WAITS, o, i, what});
             }
         }
     }
 
-    /** Of two that hold, no ACTS that do not commute, no X beside another. */
-    private void heldAgree() {
-        for (int o = 0; o < x.count(0); o++) {
-            for (int i = 0; x.lock(o, i, 0) != Kinds.NONE; i++) {
-                for (int j = 0; j < i; j++) {
-                    boolean others = x.lock(o, i, 0) != x.lock(o, j, 0);
-                    boolean exclusive = x.lock(o, i, 1) == 3 || x.lock(o, j, 1) == 3;
-                    boolean acts = x.lock(o, i, 1) == 4 && x.lock(o, j, 1) == 4;
-                    CHECK.isTrue("X alone", !others || !exclusive);
-                    CHECK.isTrue("acts commute", !others || !acts || x.commute(x.object(o, 0), x.lock(o, i, 2),
-                            x.lock(o, i, 3), x.lock(o, j, 2), x.lock(o, j, 3)) == 1);
-                }
-            }
+    private List<int[]> inTheEnd() {
+        List<int[]> all = nowAndThen();
+        for (int t = 1; t <= m.count(1); t++) {
+            addDeal(all, t);
         }
-    }
-
-    private void observeAll() {
-        for (int t = 1; t <= x.count(1); t++) {
-            observeDeal(t);
+        for (int i = 0; i <= m.count(11); i++) {
+            addRow(all, i);
         }
-        for (int o = 0; o < x.count(0); o++) {
+        for (int o = 0; o < m.count(0); o++) {
             for (int what = -1; what < 5; what++) {
-                due("object(" + o + ", " + what + ")", x.object(o, what), m.object(o, what));
+                all.add(new int[] {Calls.OBJECT, o, what});
             }
-            for (int e = 0; e <= x.count(4) + 1; e++) {
-                due("version(" + o + ", " + e + ")", x.version(o, e), m.version(o, e));
+            for (int e = 0; e <= m.count(4) + 1; e++) {
+                all.add(new int[] {Calls.VERSION, o, e});
             }
         }
         for (int n = 0; n < 60; n++) {
@@ -295,10 +297,9 @@ public final class SoakTest {
             int kind2 = upTo(2) == 0 ? kindFor(sort) : upTo(23) - 1;
             int a = aFor(kind);
             int a2 = aFor(kind2);
-            String pair = "(" + sort + ", " + kind + ", " + a + ", " + kind2 + ", " + a2 + ")";
-            due("commute" + pair, x.commute(sort, kind, a, kind2, a2), m.commute(sort, kind, a, kind2, a2));
-            due("tried" + pair, x.tried(sort, kind, a, kind2, a2), m.tried(sort, kind, a, kind2, a2));
+            all.add(new int[] {Calls.COMMUTE, sort, kind, a, kind2, a2});
+            all.add(new int[] {Calls.TRIED, sort, kind, a, kind2, a2});
         }
-        due("serial()", x.serial(), 1);
+        return all;
     }
 }
