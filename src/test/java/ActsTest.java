@@ -316,6 +316,10 @@ public final class ActsTest {
         x.limit(1);
         due("full ahead of the limit", x.act(1, 1, Kinds.ADD, 1, 0), Kinds.FULL);
         due("bad ahead of full", x.act(1, 1, -1, 1, 0), Kinds.BAD);
+        due("none more was asked", x.count(8), 700);
+        due("it was not undone", x.of(1, 0), Kinds.RUNNING);
+        x.undo(2);
+        due("state ahead of full", x.act(2, 1, Kinds.ADD, 1, 0), Kinds.STATE);
     }
 
     private static void goingOnIsTraced() {

@@ -43,6 +43,7 @@ public final class EdgesActsTest {
         limitOfOne();
         limitOfTwoHundred();
         limitLowered();
+        asManyAsCanBeAsked();
         findingFreesLocks();
         findingOfOneThatWaited();
         answersStay();
@@ -668,6 +669,19 @@ public final class EdgesActsTest {
             x.backTo(1, 0);
         });
         undone.due("ACTS undone were asked still", x -> x.act(1, COUNTER, Kinds.ADD, 1, 0), 2);
+    }
+
+    /** "FULL: 700 were asked in all": never within 512 calls; ActsTest.sevenHundred looks at 700. */
+    private static void asManyAsCanBeAsked() {
+        HoldHouse x = new HoldHouse();
+        x.make(Kinds.FOLDER, -1, 0);
+        x.make(Kinds.COUNTER, 0, 0);
+        for (int t = 1; t <= 3; t++) {
+            x.begin(0);
+        }
+        for (int i = 0; i < 507; i++) {
+            CHECK.due("ACT " + i + " of 507", x.act(1 + i % 3, COUNTER, Kinds.ADD, 1, 0), 1);
+        }
     }
 
     /** "A FINDING: locks that were granted for that ACT are free again, and it is RUNNING." */
