@@ -1,7 +1,7 @@
 /** Counts and prints answers that are not as due. */
 final class Check {
     // Far above what any test needs.
-    private static final long MOST_MILLISECONDS = 300000;
+    private static final long MOST_MILLISECONDS = 120000;
 
     private final String name;
     private volatile String latest = "none";

@@ -333,11 +333,12 @@ public final class EdgesActsTest {
     /** "12 STORE a b (5): b for KEY a: what was there, 0 if none. 13 DROP a, 14 LOOK a: what is there; 1 NULL: none." */
     private static void mapAnswers() {
         int none = with(Kinds.MAP, 0).house().object(0, 2);
-        for (int key = 0; key < 8; key++) {
+        for (int k = 0; k < 8; k++) {
+            int key = k;
             found(with(Kinds.MAP, 0), a(Kinds.LOOK, key, 0), Kinds.NULL, 18);
             found(with(Kinds.MAP, 0), a(Kinds.DROP, key, 0), Kinds.NULL, 17);
             int weight = 1;
-            for (int k = key; k < 7; k++) {
+            for (int behind = key; behind < 7; behind++) {
                 weight *= 31;
             }
             for (int v : new int[] {MIN, -1, 0, 1, MAX}) {
@@ -349,7 +350,7 @@ public final class EdgesActsTest {
                 done(there, a(Kinds.DROP, key, 0), v, none, 17);
                 found(there, a(Kinds.LOOK, (key + 1) % 8, 0), Kinds.NULL, 18);
                 found(there, a(Kinds.DROP, (key + 7) % 8, 0), Kinds.NULL, 17);
-                found(there.then(x -> x.act(1, 0, Kinds.DROP, x.row(4, 4), 0)), a(Kinds.DROP, key, 0), Kinds.NULL, 17);
+                found(there.then(x -> x.act(1, 0, Kinds.DROP, key, 0)), a(Kinds.DROP, key, 0), Kinds.NULL, 17);
             }
         }
     }

@@ -279,7 +279,7 @@ public final class EdgesTransactionsTest {
         waits.due("its LEVEL", x -> x.of(1, 2), 1);
     }
 
-    private static Scene fourRegisters() {
+    private static Scene fiveRegisters() {
         return scene(x -> {
             for (int o = 0; o < 5; o++) {
                 x.make(Kinds.REGISTER, -1, o);
@@ -291,7 +291,7 @@ public final class EdgesTransactionsTest {
 
     /** join: "its locks are those of the one below", and no others. */
     private static void joinLowersItsOwn() {
-        Scene three = fourRegisters().then(x -> {
+        Scene three = fiveRegisters().then(x -> {
             x.act(1, 0, Kinds.PUT, 9, 0);
             x.nest(1);
             x.act(1, 1, Kinds.PUT, 9, 0);
@@ -309,7 +309,7 @@ public final class EdgesTransactionsTest {
             x.back(1);
         });
         joined.due("joined to LEVEL 0 all are held", x -> x.of(1, 10), 3);
-        Scene others = fourRegisters().then(x -> {
+        Scene others = fiveRegisters().then(x -> {
             x.nest(1);
             x.nest(2);
             x.act(1, 0, Kinds.PUT, 9, 0);
@@ -358,7 +358,7 @@ public final class EdgesTransactionsTest {
 
     /** back: "its locks are free again", no others; what waited for them goes on. */
     private static void backFreesItsOwn() {
-        Scene held = fourRegisters().then(x -> {
+        Scene held = fiveRegisters().then(x -> {
             x.act(1, 0, Kinds.PUT, 9, 0);
             x.nest(1);
             x.act(1, 0, Kinds.PUT, 9, 0);
@@ -462,7 +462,7 @@ public final class EdgesTransactionsTest {
 
     /** backTo: "locks stay". */
     private static void backToKeepsLocks() {
-        Scene scene = fourRegisters().then(x -> {
+        Scene scene = fiveRegisters().then(x -> {
             x.act(1, 0, Kinds.PUT, 9, 0);
             x.act(1, 1, Kinds.PUT, 9, 0);
             x.act(2, 1, Kinds.GET, 0, 0);
