@@ -264,7 +264,8 @@ public final class EdgesActsTest {
     private static void leave() {
         found(with(Kinds.QUEUE, 0), a(Kinds.LEAVE, 0, 0), Kinds.EMPTY, 13);
         done(with(Kinds.QUEUE, 0, a(Kinds.ENTER, MIN, 0)), a(Kinds.LEAVE, 0, 0), MIN, 17, 13);
-        done(with(Kinds.QUEUE, 0, a(Kinds.ENTER, 4, 0), a(Kinds.ENTER, 6, 0)), a(Kinds.LEAVE, 5, 5), 4, 17 * 31 + 6, 13);
+        Scene two = with(Kinds.QUEUE, 0, a(Kinds.ENTER, 4, 0), a(Kinds.ENTER, 6, 0));
+        done(two, a(Kinds.LEAVE, 5, 5), 4, 17 * 31 + 6, 13);
         found(with(Kinds.QUEUE, 0, a(Kinds.ENTER, 4, 0), a(Kinds.LEAVE, 0, 0)), a(Kinds.LEAVE, 0, 0), Kinds.EMPTY, 13);
         Scene left = with(Kinds.QUEUE, 0, many(Kinds.ENTER, 8));
         for (int i = 0; i < 8; i++) {
@@ -291,7 +292,7 @@ public final class EdgesActsTest {
         }
     }
 
-    /** "11 FIRST a (4): the sum of the first a (going round); 5 SIZE: a is below 0; 4 INDEX"; "BAD: .. 11 (above 64)". */
+    /** "11 FIRST a (4): the sum of the first a (going round); 5 SIZE: a is below 0; 4 INDEX"; "BAD: 11 (above 64)". */
     private static void first() {
         int[] ints = {MAX, 1, MIN, -1, 100, 7, MAX, MAX};
         Scene queue = with(Kinds.QUEUE, 0);
@@ -330,7 +331,7 @@ public final class EdgesActsTest {
         }
     }
 
-    /** "12 STORE a b (5): b for KEY a: what was there, 0 if none. 13 DROP a, 14 LOOK a: what is there; 1 NULL: none." */
+    /** "12 STORE a b (5): .. what was there, 0 if none. 13 DROP a, 14 LOOK a (5): what is there; 1 NULL: none." */
     private static void mapAnswers() {
         int none = with(Kinds.MAP, 0).house().object(0, 2);
         for (int k = 0; k < 8; k++) {
@@ -518,7 +519,8 @@ public final class EdgesActsTest {
         int[] sums = {MIN + 9, MIN, MIN, MIN, MIN};
         for (int folder = 0; folder < 5; folder++) {
             int one = folder;
-            deep.then(x -> x.act(1, one, Kinds.SUM, 0, 0)).due("SUM of FOLDER " + folder, x -> x.of(1, 7), sums[folder]);
+            Scene summed = deep.then(x -> x.act(1, one, Kinds.SUM, 0, 0));
+            summed.due("SUM of FOLDER " + folder, x -> x.of(1, 7), sums[folder]);
         }
         Scene beside = new Scene(CHECK, x -> {
             x.make(Kinds.FOLDER, -1, 0);

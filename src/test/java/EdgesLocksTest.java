@@ -350,9 +350,9 @@ public final class EdgesLocksTest {
                 for (int kind2 : new int[] {Kinds.ADD, Kinds.BY, Kinds.PAY, Kinds.DRAW}) {
                     Scene first = two.then(x -> x.act(1, 0, kind, 1, 0));
                     if (first.house().save(1) == 1) {
-                        boolean both = kind == free && kind2 == free;
-                        CHECK.due("KIND " + kind2 + " beside " + kind, first.house().act(2, 0, kind2, 1, 0), both ? 1 : 0);
-                        CHECK.due("with another a", first.house().act(2, 0, kind2, 2, 0), both ? 1 : 0);
+                        int both = kind == free && kind2 == free ? 1 : 0;
+                        first.due("KIND " + kind2 + " beside " + kind, x -> x.act(2, 0, kind2, 1, 0), both);
+                        first.due("with another a", x -> x.act(2, 0, kind2, 2, 0), both);
                     }
                 }
             }

@@ -4,6 +4,8 @@ public final class EdgesPairsTest {
     private static final int MIN = Integer.MIN_VALUE, MAX = Integer.MAX_VALUE, MOST = 1000000000;
     private static final String[] HAS = {"1267", "16", "16", "2", "3", "3", "3", "345", "4", "4", "4", "4", "5", "5",
         "5", "6", "6", "7", "7", "6", "0", "01234567"};
+    private static HoldHouse used;
+    private static int usedCalls = 450;
 
     public static void main(String[] args) {
         commuteSorts();
@@ -36,6 +38,29 @@ public final class EdgesPairsTest {
         String pair = "(" + sort + ", " + kind + ", " + a + ", " + kind2 + ", " + a2 + ")";
         CHECK.due("tried" + pair, new HoldHouse().tried(sort, kind, a, kind2, a2), want);
         CHECK.due("tried" + pair + " the other way", new HoldHouse().tried(sort, kind2, a2, kind, a), want);
+        CHECK.due("tried" + pair + " on a used house", usedHouse().tried(sort, kind, a, kind2, a2), want);
+    }
+
+    /** A house in which tried() and serial() were asked before: what they tried then must not tell now. */
+    private static HoldHouse usedHouse() {
+        if (usedCalls >= 450) {
+            used = new HoldHouse();
+            usedCalls = 0;
+            int[][] acts = {{0, Kinds.STORE, 0, 7}, {0, Kinds.STORE, 1, 8}, {1, Kinds.STORE, 0, 9},
+                {1, Kinds.STORE, 1, 6}, {2, Kinds.ENTER, 5, 0}, {3, Kinds.ENTER, 4, 0}};
+            used.make(Kinds.MAP, -1, 0);
+            used.make(Kinds.MAP, -1, 0);
+            used.make(Kinds.QUEUE, -1, 0);
+            used.make(Kinds.QUEUE, -1, 0);
+            used.begin(0);
+            for (int[] act : acts) {
+                used.act(1, act[0], act[1], act[2], act[3]);
+            }
+            used.end(1);
+        }
+        usedCalls += 2;
+        CHECK.due("serial", used.serial(), 1);
+        return used;
     }
 
     /** commute: "BAD: no such SORT". */
@@ -159,12 +184,17 @@ public final class EdgesPairsTest {
 
     /** tried: "BAD: .. a as of act() (17: -1 alone)". */
     private static void triedAs() {
-        int[][] bounds = {{Kinds.SET, Kinds.INSERT, 0, 31}, {Kinds.SET, Kinds.DELETE, 0, 31}, {Kinds.SET, Kinds.HAS, 0, 31},
+        int[][] bounds = {{Kinds.SET, Kinds.INSERT, 0, 31}, {Kinds.SET, Kinds.DELETE, 0, 31},
+            {Kinds.SET, Kinds.HAS, 0, 31},
             {Kinds.MAP, Kinds.STORE, 0, 7}, {Kinds.MAP, Kinds.DROP, 0, 7}, {Kinds.MAP, Kinds.LOOK, 0, 7},
-            {Kinds.ACCOUNT, Kinds.PAY, 0, 1000}, {Kinds.ACCOUNT, Kinds.DRAW, 0, 1000}, {Kinds.QUEUE, Kinds.FIRST, MIN, 64},
-            {Kinds.SLOT, Kinds.POINT, -1, -1}, {Kinds.COUNTER, Kinds.ADD, MIN, MAX}, {Kinds.COUNTER, Kinds.BY, MIN, MAX},
-            {Kinds.REGISTER, Kinds.PUT, MIN, MAX}, {Kinds.QUEUE, Kinds.ENTER, MIN, MAX}, {Kinds.QUEUE, Kinds.AT, MIN, MAX},
-            {Kinds.QUEUE, Kinds.LEAVE, MIN, MAX}, {Kinds.SET, Kinds.SIZE, MIN, MAX}, {Kinds.ACCOUNT, Kinds.ADD, MIN, MAX},
+            {Kinds.ACCOUNT, Kinds.PAY, 0, 1000}, {Kinds.ACCOUNT, Kinds.DRAW, 0, 1000},
+            {Kinds.QUEUE, Kinds.FIRST, MIN, 64},
+            {Kinds.SLOT, Kinds.POINT, -1, -1}, {Kinds.COUNTER, Kinds.ADD, MIN, MAX},
+            {Kinds.COUNTER, Kinds.BY, MIN, MAX},
+            {Kinds.REGISTER, Kinds.PUT, MIN, MAX}, {Kinds.QUEUE, Kinds.ENTER, MIN, MAX},
+            {Kinds.QUEUE, Kinds.AT, MIN, MAX},
+            {Kinds.QUEUE, Kinds.LEAVE, MIN, MAX}, {Kinds.SET, Kinds.SIZE, MIN, MAX},
+            {Kinds.ACCOUNT, Kinds.ADD, MIN, MAX},
             {Kinds.ACCOUNT, Kinds.BY, MIN, MAX}, {Kinds.SLOT, Kinds.GET, MIN, MAX}};
         for (int[] one : bounds) {
             int quiet = isIn(one[0], Kinds.SET, Kinds.MAP) ? Kinds.SIZE : Kinds.GET;
